@@ -1,0 +1,216 @@
+/** Promises 22 to 24: undo, saving. */
+public final class UndoTest {
+    private static final int BAD_VALUE = -2, NOT_POSSIBLE = -5;
+    private static final int[] NO_SLOTS = {-1, 2, Integer.MIN_VALUE, Integer.MAX_VALUE};
+    private static final Check CHECK = new Check("UndoTest");
+
+    public static void main(String[] args) {
+        undoOfEachChange();
+        sixStates();
+        undoWithoutHistory();
+        undoLeavesPadAndSlots();
+        whatIsNoChange();
+        undoBringsChalkBack();
+        save();
+        saveOverwrites();
+        restore();
+        restoreIsAChange();
+        restoreKeepsTheSlot();
+        wrongSlots();
+        CHECK.end();
+    }
+
+    private static void undoOfEachChange() {
+        TailorChalks x = new TailorChalks();
+        long[] prints = new long[8];
+        prints[0] = Play.print(x);
+        x.chalk(9);
+        prints[1] = Play.print(x);
+        x.snip(8);
+        prints[2] = Play.print(x);
+        x.sew(8);
+        prints[3] = Play.print(x);
+        x.doubt(8);
+        prints[4] = Play.print(x);
+        x.snip(7);
+        prints[5] = Play.print(x);
+        x.bluff(7);
+        prints[6] = Play.print(x);
+        for (int left = 5; left >= 0; left--) {
+            CHECK.due("undo()", x.undo(), left);
+            CHECK.due("print " + left, Play.print(x), prints[left]);
+            CHECK.due("count(10)", x.count(10), left);
+        }
+        CHECK.due("undo()", x.undo(), NOT_POSSIBLE);
+    }
+
+    private static void sixStates() {
+        TailorChalks x = new TailorChalks();
+        for (int change = 1; change <= 20; change++) {
+            x.pass();
+            CHECK.due("count(10)", x.count(10), Math.min(change, 6));
+        }
+        for (int left = 5; left >= 0; left--) {
+            CHECK.due("undo()", x.undo(), left);
+            CHECK.due("count(0)", x.count(0), 14 + left);
+        }
+        CHECK.due("undo()", x.undo(), NOT_POSSIBLE);
+        CHECK.due("count(0)", x.count(0), 14);
+        x.pass();
+        CHECK.due("undo()", x.undo(), 0);
+        CHECK.due("count(0)", x.count(0), 14);
+    }
+
+    private static void undoWithoutHistory() {
+        TailorChalks x = new TailorChalks();
+        long before = Play.fullPrint(x);
+        CHECK.due("undo()", x.undo(), NOT_POSSIBLE);
+        CHECK.due("print", Play.fullPrint(x), before);
+    }
+
+    private static void undoLeavesPadAndSlots() {
+        TailorChalks x = new TailorChalks();
+        x.snip(0);
+        x.save(1);
+        Play.type(x, "p;c1");
+        CHECK.due("undo()", x.undo(), 0);
+        CHECK.due("count(9)", x.count(9), 4);
+        CHECK.due("fault()", x.fault(), -6);
+        CHECK.due("restore(1)", x.restore(1), 48);
+        CHECK.due("of(0, 0)", x.of(0, 0), 1);
+        Play.type(x, ";c2");
+        CHECK.due("carryOut()", x.carryOut(), 3);
+        CHECK.due("undo()", x.undo(), 1);
+        CHECK.due("count(9)", x.count(9), 0);
+    }
+
+    private static void whatIsNoChange() {
+        TailorChalks x = new TailorChalks();
+        x.pass();
+        x.save(0);
+        x.put('p');
+        x.wipe();
+        x.snip(-1);
+        x.sew(0);
+        x.carryOut();
+        x.restore(1);
+        x.restore(2);
+        CHECK.due("count(10)", x.count(10), 1);
+        CHECK.due("undo()", x.undo(), 0);
+        CHECK.due("count(0)", x.count(0), 0);
+    }
+
+    private static void undoBringsChalkBack() {
+        TailorChalks x = new TailorChalks();
+        int[] joints = {6, 49, 5};
+        for (int joint : joints) {
+            x.chalk(joint);
+            x.chalk(joint);
+        }
+        long before = Play.print(x);
+        x.snip(6);
+        x.snip(49);
+        CHECK.due("count(4)", x.count(4), 47);
+        CHECK.due("player(0, 2)", x.player(0, 2), 1);
+        x.undo();
+        x.undo();
+        CHECK.due("print", Play.print(x), before);
+        for (int rank = 0; rank < joints.length; rank++) {
+            CHECK.due("chalked(0, " + rank + ")", x.chalked(0, rank), joints[rank]);
+            CHECK.due("chalked(1, " + rank + ")", x.chalked(1, rank), joints[rank]);
+        }
+    }
+
+    private static void save() {
+        TailorChalks x = new TailorChalks();
+        long before = Play.fullPrint(x);
+        CHECK.due("save(0)", x.save(0), 48);
+        CHECK.due("print", Play.fullPrint(x), before);
+        CHECK.due("restore(1)", x.restore(1), NOT_POSSIBLE);
+        Play.snipAll(x, 0, 42);
+        CHECK.due("save(1)", x.save(1), 47);
+        CHECK.due("save(1) if over", Play.overByCells().save(1), 12);
+        CHECK.due("restore(0)", x.restore(0), 48);
+        CHECK.due("restore(1)", x.restore(1), 47);
+        x = Play.overByTurns();
+        CHECK.due("save(0) if over", x.save(0), 48);
+        CHECK.due("restore(0) if over", x.restore(0), 48);
+        CHECK.due("count(0)", x.count(0), 200);
+    }
+
+    private static void saveOverwrites() {
+        TailorChalks x = new TailorChalks();
+        x.pass();
+        x.save(0);
+        x.pass();
+        x.save(0);
+        x.pass();
+        CHECK.due("restore(0)", x.restore(0), 48);
+        CHECK.due("count(0)", x.count(0), 2);
+    }
+
+    private static void restore() {
+        TailorChalks x = new TailorChalks();
+        x.chalk(3);
+        x.snip(0);
+        x.bluff(0);
+        x.chalk(9);
+        x.sew(0);
+        long saved = Play.print(x);
+        x.save(1);
+        Play.snipAll(x, 42, 9, 3);
+        x.pass();
+        Play.type(x, "p");
+        CHECK.due("restore(1)", x.restore(1), 48);
+        CHECK.due("print", Play.print(x), saved);
+        CHECK.due("count(9)", x.count(9), 1);
+        CHECK.due("restore(0)", x.restore(0), NOT_POSSIBLE);
+    }
+
+    private static void restoreIsAChange() {
+        TailorChalks x = new TailorChalks();
+        x.save(0);
+        x.pass();
+        x.snip(0);
+        long before = Play.print(x);
+        CHECK.due("restore(0)", x.restore(0), 48);
+        CHECK.due("count(10)", x.count(10), 3);
+        CHECK.due("count(0)", x.count(0), 0);
+        CHECK.due("undo()", x.undo(), 2);
+        CHECK.due("print", Play.print(x), before);
+        for (int i = 0; i < 10; i++) {
+            x.restore(0);
+        }
+        CHECK.due("count(10)", x.count(10), 6);
+        CHECK.due("restore(1)", x.restore(1), NOT_POSSIBLE);
+        CHECK.due("count(10)", x.count(10), 6);
+        CHECK.due("undo()", x.undo(), 5);
+    }
+
+    private static void restoreKeepsTheSlot() {
+        TailorChalks x = new TailorChalks();
+        x.snip(5);
+        x.save(0);
+        long saved = Play.print(x);
+        x.restore(0);
+        x.snip(6);
+        x.snip(7);
+        x.undo();
+        x.chalk(8);
+        CHECK.due("restore(0)", x.restore(0), 48);
+        CHECK.due("print", Play.print(x), saved);
+    }
+
+    private static void wrongSlots() {
+        TailorChalks x = new TailorChalks();
+        x.pass();
+        x.save(0);
+        x.save(1);
+        long before = Play.fullPrint(x);
+        for (int slot : NO_SLOTS) {
+            CHECK.due("save(" + slot + ")", x.save(slot), BAD_VALUE);
+            CHECK.due("restore(" + slot + ")", x.restore(slot), BAD_VALUE);
+        }
+        CHECK.due("print", Play.fullPrint(x), before);
+    }
+}
