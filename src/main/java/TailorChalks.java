@@ -697,11 +697,14 @@ public final class TailorChalks {
             for (int joint = 0; joint < JOINTS; joint++) {
                 if (states[joint] == BLUFFED && !isVoid(joint)) {
                     long own = 1L << firstCell(joint);
-                    across |= isDown(joint) ? 0 : own;
-                    down |= isDown(joint) ? own : 0;
+                    if (isDown(joint)) {
+                        down |= own;
+                    } else {
+                        across |= own;
+                    }
                 }
             }
-            return isGone(cell) ? 0 : spread(cell, across, down);
+            return spread(cell, across, down);
         }
 
         int lowestOfPiece(int cell) {

@@ -83,6 +83,16 @@ final class Play {
         return x;
     }
 
+    /** Three rows fall off, then 11 cells of what is left: 13 cells stay, and it is not over. */
+    static TailorChalks thirteenCells() {
+        TailorChalks x = new TailorChalks();
+        snipBelowRow(x, 4);
+        snipBelowRow(x, 3);
+        snipBelowRow(x, 2);
+        snipAll(x, 3, 10, 18, 54);
+        return x;
+    }
+
     /** Pieces of 12 and 24 cells next to one another, and it is the turn of player 1. */
     static TailorChalks twelveByTwentyFour() {
         TailorChalks x = new TailorChalks();

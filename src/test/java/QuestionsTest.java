@@ -17,6 +17,8 @@ public final class QuestionsTest {
         chalkedWithWrongInputs();
         counts();
         jointsCountedByState();
+        piecesApart();
+        pieceOfOneCell();
         winner();
         countWithWrongInputs();
         CHECK.end();
@@ -117,6 +119,7 @@ public final class QuestionsTest {
         CHECK.due("cell(7, 2)", x.cell(7, 2), NONE);
         CHECK.due("cell(7, 3)", x.cell(7, 3), 0);
         CHECK.due("cell(6, 1)", x.cell(6, 1), 23);
+        CHECK.due("count(5)", x.count(5), 2);
         x.bluff(3);
         CHECK.due("cell(3, 1) beside a bluff", x.cell(3, 1), 24);
         x.doubt(3);
@@ -288,6 +291,34 @@ public final class QuestionsTest {
         CHECK.due("count(7)", x.count(7), 1);
         CHECK.due("count(8)", x.count(8), 1);
         CHECK.due("count(5)", x.count(5), 1);
+    }
+
+    private static void piecesApart() {
+        TailorChalks x = new TailorChalks();
+        // The row 5 falls off, then the row 0; the rows 1 and 2 and the rows 3 and 4 stay apart.
+        Play.snipBelowRow(x, 4);
+        Play.snipBelowRow(x, 0);
+        CHECK.due("count(5)", x.count(5), 1);
+        Play.snipBelowRow(x, 2);
+        CHECK.due("count(4)", x.count(4), 32);
+        CHECK.due("count(5)", x.count(5), 2);
+        CHECK.due("cell(8, 1)", x.cell(8, 1), 16);
+        CHECK.due("cell(39, 2)", x.cell(39, 2), 24);
+    }
+
+    private static void pieceOfOneCell() {
+        TailorChalks x = Play.twelveByTwentyFour();
+        Play.snipAll(x, 1, 8, 15);
+        CHECK.due("cell(0, 1)", x.cell(0, 1), 6);
+        Play.snipAll(x, 0, 7, 14);
+        CHECK.due("cell(0, 1)", x.cell(0, 1), 3);
+        Play.snipAll(x, 50, 42);
+        CHECK.due("cell(0, 0)", x.cell(0, 0), 0);
+        CHECK.due("cell(0, 1)", x.cell(0, 1), 1);
+        CHECK.due("cell(0, 2)", x.cell(0, 2), 0);
+        CHECK.due("cell(0, 3)", x.cell(0, 3), 0);
+        CHECK.due("count(4)", x.count(4), 25);
+        CHECK.due("count(5)", x.count(5), 2);
     }
 
     private static void winner() {

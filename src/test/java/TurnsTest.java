@@ -14,6 +14,7 @@ public final class TurnsTest {
         snip();
         snipFindsChalk();
         ragTakesChalkAlong();
+        ragTakesTheChalkOfTheFirstJoint();
         greatestRag();
         smallerPieceFallsOff();
         ofTwoAsGreatTheSecondFallsOff();
@@ -27,6 +28,7 @@ public final class TurnsTest {
         pass();
         wrongJoints();
         nothingWhenOver();
+        overWithFewerThanThirteenCells();
         errorsChangeNothing();
         CHECK.end();
     }
@@ -209,6 +211,17 @@ public final class TurnsTest {
         CHECK.due("player(0, 5)", x.player(0, 5), 2);
         CHECK.due("player(1, 0)", x.player(1, 0), 500 - 2);
         CHECK.due("player(0, 4)", x.player(0, 4), 2);
+    }
+
+    private static void ragTakesTheChalkOfTheFirstJoint() {
+        TailorChalks x = new TailorChalks();
+        x.chalk(0);
+        x.chalk(0);
+        Play.snipAll(x, 1, 42, 43);
+        CHECK.due("cell(0, 0)", x.cell(0, 0), 1);
+        CHECK.due("cell(1, 0)", x.cell(1, 0), 1);
+        CHECK.due("chalked(0, 0)", x.chalked(0, 0), NO_SUCH);
+        CHECK.due("chalked(1, 0)", x.chalked(1, 0), NO_SUCH);
     }
 
     private static void greatestRag() {
@@ -464,6 +477,19 @@ public final class TurnsTest {
         CHECK.due("count(4)", x.count(4), 12);
         CHECK.due("chalk(0)", x.chalk(0), NOT_POSSIBLE);
         CHECK.due("snip(0)", x.snip(0), NOT_POSSIBLE);
+    }
+
+    private static void overWithFewerThanThirteenCells() {
+        TailorChalks x = Play.thirteenCells();
+        CHECK.due("count(4)", x.count(4), 13);
+        CHECK.due("count(2)", x.count(2), 0);
+        CHECK.due("chalk(1)", x.chalk(1), 1);
+        CHECK.due("snip(0)", x.snip(0), 0);
+        CHECK.due("snip(42)", x.snip(42), 1);
+        CHECK.due("count(4)", x.count(4), 12);
+        CHECK.due("count(2)", x.count(2), 1);
+        CHECK.due("snip(1)", x.snip(1), NOT_POSSIBLE);
+        CHECK.due("why(1)", x.why(1), 1);
     }
 
     private static void errorsChangeNothing() {

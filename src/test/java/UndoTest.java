@@ -11,6 +11,9 @@ public final class UndoTest {
         undoLeavesPadAndSlots();
         whatIsNoChange();
         undoBringsChalkBack();
+        undoAtEachJoint();
+        undoOfDoubts();
+        errorsLeaveTheHistory();
         save();
         saveOverwrites();
         restore();
@@ -118,6 +121,58 @@ public final class UndoTest {
         for (int rank = 0; rank < joints.length; rank++) {
             CHECK.due("chalked(0, " + rank + ")", x.chalked(0, rank), joints[rank]);
             CHECK.due("chalked(1, " + rank + ")", x.chalked(1, rank), joints[rank]);
+        }
+    }
+
+    private static void undoAtEachJoint() {
+        for (int joint = 0; joint < 82; joint++) {
+            TailorChalks x = new TailorChalks();
+            long[] prints = new long[5];
+            prints[0] = Play.print(x);
+            x.snip(joint);
+            prints[1] = Play.print(x);
+            x.bluff(joint);
+            prints[2] = Play.print(x);
+            x.doubt(joint);
+            prints[3] = Play.print(x);
+            x.sew(joint);
+            for (int left = 3; left >= 0; left--) {
+                CHECK.due("undo() at " + joint, x.undo(), left);
+                CHECK.due("print at " + joint, Play.print(x), prints[left]);
+            }
+        }
+    }
+
+    private static void undoOfDoubts() {
+        TailorChalks x = new TailorChalks();
+        Play.snipAll(x, 20, 21);
+        x.bluff(20);
+        x.save(0);
+        x.doubt(20);
+        CHECK.due("player(1, 6)", x.player(1, 6), 1);
+        x.undo();
+        CHECK.due("player(1, 6)", x.player(1, 6), 0);
+        x.doubt(20);
+        x.restore(0);
+        CHECK.due("player(1, 6)", x.player(1, 6), 0);
+        x.sew(21);
+        x.doubt(21);
+        CHECK.due("player(0, 7)", x.player(0, 7), 1);
+        x.undo();
+        CHECK.due("player(0, 7)", x.player(0, 7), 0);
+    }
+
+    private static void errorsLeaveTheHistory() {
+        TailorChalks x = new TailorChalks();
+        for (int change = 1; change <= 20; change++) {
+            x.pass();
+            x.snip(-1);
+            x.sew(0);
+        }
+        for (int left = 5; left >= 0; left--) {
+            x.snip(82);
+            CHECK.due("undo()", x.undo(), left);
+            CHECK.due("count(0)", x.count(0), 14 + left);
         }
     }
 

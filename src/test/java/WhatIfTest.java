@@ -211,6 +211,7 @@ public final class WhatIfTest {
         CHECK.due("together(0, 47, 1)", x.together(0, 47, 1), 1);
         CHECK.due("together(0, 1, 0) if over", Play.overByTurns().together(0, 1, 0), 1);
         bluffAcross();
+        bluffAtEachJointOfABorder();
         bluffsOfGoneCells();
     }
 
@@ -220,6 +221,23 @@ public final class WhatIfTest {
         x.bluff(24);
         CHECK.due("together(0, 47, 0)", x.together(0, 47, 0), 0);
         CHECK.due("together(0, 47, 1)", x.together(0, 47, 1), 1);
+    }
+
+    private static void bluffAtEachJointOfABorder() {
+        // One piece is the column 0 with the rows 4 and 5, the other one is the rest.
+        int[] border = {0, 7, 14, 21, 67, 68, 69, 70, 71, 72, 73};
+        for (int bluffed : border) {
+            TailorChalks x = new TailorChalks();
+            Play.snipAll(x, border);
+            CHECK.due("cell(0, 1)", x.cell(0, 1), 20);
+            CHECK.due("cell(1, 1)", x.cell(1, 1), 28);
+            x.snip(52);
+            x.bluff(52);
+            CHECK.due("together(0, 1, 1)", x.together(0, 1, 1), 0);
+            x.bluff(bluffed);
+            CHECK.due("together(0, 1, 0)", x.together(0, 1, 0), 0);
+            CHECK.due("together(0, 1, 1)", x.together(0, 1, 1), 1);
+        }
     }
 
     private static void bluffsOfGoneCells() {
