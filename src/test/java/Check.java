@@ -3,6 +3,9 @@ final class Check {
     private static final int MOST_SHOWN = 40;
 
     private final String test;
+    private String section = "";
+    private String sentence = "";
+    private int sentences;
     private long answers;
     private long wrong;
 
@@ -10,14 +13,34 @@ final class Check {
         this.test = test;
     }
 
+    /** Names the section of the document in which the next sentences stand. */
+    void section(String section) {
+        this.section = section;
+    }
+
+    /** Runs the test of one sentence of the document, which is told with each wrong answer. */
+    void holds(String sentence, Runnable test) {
+        this.sentence = " (" + section + ": \"" + sentence + "\")";
+        sentences++;
+        long before = answers;
+        test.run();
+        isSo("the test compares answers", answers > before);
+        isSo("the document has the sentence", Document.says(section, sentence));
+        this.sentence = "";
+    }
+
     void due(String call, long got, long want) {
         answers++;
         if (got != want) {
             wrong++;
             if (wrong <= MOST_SHOWN) {
-                System.out.println(test + ": " + call + " answered " + got + ", due is " + want);
+                System.out.println(test + sentence + ": " + call + " answered " + got + ", due is " + want);
             }
         }
+    }
+
+    void isSo(String what, boolean so) {
+        due(what, so ? 1 : 0, 1);
     }
 
     boolean allRight() {
@@ -25,7 +48,8 @@ final class Check {
     }
 
     void end() {
-        System.out.println(test + ": " + answers + " answers, " + wrong + " wrong");
+        String tested = sentences == 0 ? "" : sentences + " sentences, ";
+        System.out.println(test + ": " + tested + answers + " answers, " + wrong + " wrong");
         if (wrong != 0) {
             System.exit(1);
         }

@@ -17,24 +17,20 @@ public final class FaceTest {
 
     public static void main(String[] args) throws ReflectiveOperationException {
         int modifiers = TailorChalks.class.getModifiers();
-        isSo("public and final", Modifier.isPublic(modifiers) && Modifier.isFinal(modifiers));
-        isSo("one constructor", TailorChalks.class.getDeclaredConstructors().length == 1);
-        isSo("it is public", Modifier.isPublic(TailorChalks.class.getDeclaredConstructor().getModifiers()));
+        CHECK.isSo("public and final", Modifier.isPublic(modifiers) && Modifier.isFinal(modifiers));
+        CHECK.isSo("one constructor", TailorChalks.class.getDeclaredConstructors().length == 1);
+        CHECK.isSo("it is public", Modifier.isPublic(TailorChalks.class.getDeclaredConstructor().getModifiers()));
         constants();
         methods();
         nestedClasses();
         CHECK.end();
     }
 
-    private static void isSo(String what, boolean so) {
-        CHECK.due(what, so ? 1 : 0, 1);
-    }
-
     private static void constants() throws ReflectiveOperationException {
         for (int i = 0; i < CONSTANTS.length; i++) {
             Field field = TailorChalks.class.getField(CONSTANTS[i]);
             CHECK.due(CONSTANTS[i], field.getInt(null), -1 - i);
-            isSo(CONSTANTS[i] + " is a constant", Modifier.isFinal(field.getModifiers()));
+            CHECK.isSo(CONSTANTS[i] + " is a constant", Modifier.isFinal(field.getModifiers()));
         }
         int open = 0;
         for (Field field : TailorChalks.class.getDeclaredFields()) {
@@ -50,13 +46,13 @@ public final class FaceTest {
             if (!Modifier.isPrivate(method.getModifiers())) {
                 open.add(signature(method));
                 openNames.add(method.getName());
-                isSo(method + " is public", Modifier.isPublic(method.getModifiers()));
-                isSo(method + " returns int", method.getReturnType() == int.class);
+                CHECK.isSo(method + " is public", Modifier.isPublic(method.getModifiers()));
+                CHECK.isSo(method + " returns int", method.getReturnType() == int.class);
             }
         }
-        isSo("methods " + open, open.equals(METHODS));
+        CHECK.isSo("methods " + open, open.equals(METHODS));
         for (Method method : TailorChalks.class.getDeclaredMethods()) {
-            isSo(method + " has no public one's name",
+            CHECK.isSo(method + " has no public one's name",
                 !Modifier.isPrivate(method.getModifiers()) || !openNames.contains(method.getName()));
         }
     }
@@ -71,9 +67,9 @@ public final class FaceTest {
 
     private static void nestedClasses() {
         for (Class<?> nested : TailorChalks.class.getDeclaredClasses()) {
-            isSo(nested + " is static", Modifier.isStatic(nested.getModifiers()));
-            isSo(nested + " is hidden", !Modifier.isPublic(nested.getModifiers()));
+            CHECK.isSo(nested + " is static", Modifier.isStatic(nested.getModifiers()));
+            CHECK.isSo(nested + " is hidden", !Modifier.isPublic(nested.getModifiers()));
         }
-        isSo("few classes", TailorChalks.class.getDeclaredClasses().length <= 12);
+        CHECK.isSo("few classes", TailorChalks.class.getDeclaredClasses().length <= 12);
     }
 }

@@ -19,18 +19,14 @@ public final class LanguageTest {
     public static void main(String[] args) throws IOException {
         String source = Files.readString(SOURCE);
         String code = source.replaceAll("(?s)/\\*.*?\\*/", "").replaceAll("//[^\n]*", "");
-        isSo("signs are 1 to 127", source.chars().allMatch(sign -> sign >= 1 && sign <= 127));
+        CHECK.isSo("signs are 1 to 127", source.chars().allMatch(sign -> sign >= 1 && sign <= 127));
         for (String forbidden : FORBIDDEN) {
             Matcher matcher = Pattern.compile(forbidden).matcher(code);
-            isSo("no " + forbidden, !matcher.find());
+            CHECK.isSo("no " + forbidden, !matcher.find());
         }
         shortMethods(source);
         callsMakeNothing();
         CHECK.end();
-    }
-
-    private static void isSo(String what, boolean so) {
-        CHECK.due(what, so ? 1 : 0, 1);
     }
 
     private static void shortMethods(String source) {
@@ -40,7 +36,7 @@ public final class LanguageTest {
             if (lines[i].matches("( {4}| {8})[a-zA-Z].*\\) \\{")) {
                 start = i;
             } else if (lines[i].matches("( {4}| {8})\\}")) {
-                isSo("at most 60 lines from line " + (start + 1), i - start < 60 || !lines[start].contains("("));
+                CHECK.isSo("at most 60 lines from line " + (start + 1), i - start < 60 || !lines[start].contains("("));
                 start = i;
             }
         }
@@ -63,7 +59,7 @@ public final class LanguageTest {
         }
         long made = meter.getThreadAllocatedBytes(thread) - before;
         // The smallest object has 16 bytes; the half leaves room for what the machine itself makes.
-        isSo("calls make nothing, but made " + made, made < 8L * OBJECTS * ROUNDS);
+        CHECK.isSo("calls make nothing, but made " + made, made < 8L * OBJECTS * ROUNDS);
     }
 
     private static void everyCall(TailorChalks x) {

@@ -1,18 +1,25 @@
 /** All promises: games of 512 calls, drawn by a fixed rule, against the model. */
 public final class RandomGamesTest {
-    private static final int GAMES = 250;
+    private static final int GAMES = 1500;
     private static final int CALLS = 512;
+
+    /** As many calls as one draw makes at most. */
+    private static final int CALLS_OF_A_DRAW = 16;
+    private static final int CALLS_TO_ASK_ALL = 350;
     private static final Check CHECK = new Check("RandomGamesTest");
 
     private final TailorChalks x = new TailorChalks();
     private final Model model = new Model();
     private final StringBuilder run = new StringBuilder();
     private final int style;
+    private final boolean asksAll;
     private long seed;
+    private int calls;
 
     private RandomGamesTest(int game) {
         seed = 1000003L * game + 12345;
         style = game % 5;
+        asksAll = game / 5 % 2 == 0;
     }
 
     public static void main(String[] args) {
@@ -22,22 +29,31 @@ public final class RandomGamesTest {
         CHECK.end();
     }
 
+    /** A game of 512 calls, or a shorter one, behind which there are calls left to ask for all there is. */
     private void play() {
-        for (int call = 0; call < CALLS; call++) {
-            int draw = below(100);
-            if (draw < 55) {
-                turn();
-            } else if (draw < 82) {
-                ask();
-            } else if (draw < 92) {
-                write();
-            } else {
-                goBackOrSave();
-            }
-            if (!CHECK.allRight()) {
-                System.out.println(run);
-                return;
-            }
+        int most = CALLS - CALLS_OF_A_DRAW - (asksAll ? CALLS_TO_ASK_ALL : 0);
+        while (calls <= most && CHECK.allRight()) {
+            draw();
+        }
+        if (asksAll) {
+            askAll();
+        }
+        CHECK.isSo("the game has no more calls than " + CALLS, calls <= CALLS);
+        if (!CHECK.allRight()) {
+            System.out.println(run);
+        }
+    }
+
+    private void draw() {
+        int draw = below(100);
+        if (draw < 60) {
+            turn();
+        } else if (draw < 82 && !asksAll) {
+            ask();
+        } else if (draw < 92) {
+            write();
+        } else {
+            goBackOrSave();
         }
     }
 
@@ -48,6 +64,7 @@ public final class RandomGamesTest {
     }
 
     private void due(String call, int got, int want) {
+        calls++;
         run.append(call).append(' ').append(got).append('\n');
         CHECK.due(call, got, want);
     }
@@ -104,10 +121,6 @@ public final class RandomGamesTest {
     }
 
     private void ask() {
-        if (below(12) == 0) {
-            askAll();
-            return;
-        }
         int what = number(0, 6);
         int joint = number(0, 81);
         int cell = number(0, 47);
@@ -131,24 +144,27 @@ public final class RandomGamesTest {
 
     private void askAll() {
         for (int joint = 0; joint < 82; joint++) {
-            for (int what = 0; what <= 6; what++) {
-                CHECK.due("of(" + joint + ", " + what + ")", x.of(joint, what), model.of(joint, what));
-            }
-            CHECK.due("ifSnipped(" + joint + ")", x.ifSnipped(joint), model.ifSnipped(joint));
+            int what = below(7);
+            due("of(" + joint + ", 0)", x.of(joint, 0), model.of(joint, 0));
+            due("of(" + joint + ", " + what + ")", x.of(joint, what), model.of(joint, what));
+            due("ifSnipped(" + joint + ")", x.ifSnipped(joint), model.ifSnipped(joint));
         }
         for (int player = 0; player <= 1; player++) {
             for (int what = 0; what <= 7; what++) {
-                CHECK.due("player(" + player + ", " + what + ")", x.player(player, what), model.player(player, what));
-                CHECK.due("chalked(" + player + ", " + what + ")", x.chalked(player, what), model.chalked(player, what));
+                due("player(" + player + ", " + what + ")", x.player(player, what), model.player(player, what));
+                due("chalked(" + player + ", " + what + ")", x.chalked(player, what), model.chalked(player, what));
             }
         }
         for (int what = 0; what <= 10; what++) {
-            CHECK.due("count(" + what + ")", x.count(what), model.count(what));
+            due("count(" + what + ")", x.count(what), model.count(what));
         }
-        int cell = below(48);
-        for (int what = 0; what <= 3; what++) {
-            CHECK.due("cell(" + cell + ", " + what + ")", x.cell(cell, what), model.cell(cell, what));
+        for (int cell = below(2); cell < 48; cell += 2) {
+            int what = below(4);
+            due("cell(" + cell + ", " + what + ")", x.cell(cell, what), model.cell(cell, what));
         }
+        due("weak()", x.weak(), model.weak());
+        due("bestSnip(0)", x.bestSnip(0), model.bestSnip(0));
+        due("bestSnip(1)", x.bestSnip(1), model.bestSnip(1));
     }
 
     private void write() {

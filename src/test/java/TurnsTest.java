@@ -42,6 +42,7 @@ public final class TurnsTest {
             CHECK.due("of(" + joint + ", 5)", x.of(joint, 5), NONE);
             CHECK.due("of(" + joint + ", 6)", x.of(joint, 6), 1);
         }
+        x = new TailorChalks();
         for (int cell = 0; cell < 48; cell++) {
             CHECK.due("cell(" + cell + ", 0)", x.cell(cell, 0), 0);
             CHECK.due("cell(" + cell + ", 1)", x.cell(cell, 1), 48);

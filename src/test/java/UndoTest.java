@@ -1,6 +1,6 @@
 /** Promises 22 to 24: undo, saving. */
 public final class UndoTest {
-    private static final int BAD_VALUE = -2, NOT_POSSIBLE = -5;
+    private static final int BAD_VALUE = -2, NOT_POSSIBLE = -5, NONE = -6;
     private static final int[] NO_SLOTS = {-1, 2, Integer.MIN_VALUE, Integer.MAX_VALUE};
     private static final Check CHECK = new Check("UndoTest");
 
@@ -24,27 +24,23 @@ public final class UndoTest {
     }
 
     private static void undoOfEachChange() {
-        TailorChalks x = new TailorChalks();
-        long[] prints = new long[8];
-        prints[0] = Play.print(x);
-        x.chalk(9);
-        prints[1] = Play.print(x);
-        x.snip(8);
-        prints[2] = Play.print(x);
-        x.sew(8);
-        prints[3] = Play.print(x);
-        x.doubt(8);
-        prints[4] = Play.print(x);
-        x.snip(7);
-        prints[5] = Play.print(x);
-        x.bluff(7);
-        prints[6] = Play.print(x);
-        for (int left = 5; left >= 0; left--) {
-            CHECK.due("undo()", x.undo(), left);
-            CHECK.due("print " + left, Play.print(x), prints[left]);
-            CHECK.due("count(10)", x.count(10), left);
+        String[] changes = {"c9", "s8", "w8", "d8", "s7", "b7"};
+        for (int undone = 1; undone <= changes.length; undone++) {
+            TailorChalks x = new TailorChalks();
+            TailorChalks y = new TailorChalks();
+            for (int change = 0; change < changes.length; change++) {
+                Play.turns(x, changes[change]);
+                if (change < changes.length - undone) {
+                    Play.turns(y, changes[change]);
+                }
+            }
+            for (int left = 5; left >= changes.length - undone; left--) {
+                CHECK.due("undo()", x.undo(), left);
+                CHECK.due("count(10)", x.count(10), left);
+            }
+            CHECK.due("print behind " + undone, Play.print(x), Play.print(y));
         }
-        CHECK.due("undo()", x.undo(), NOT_POSSIBLE);
+        CHECK.due("undo()", new TailorChalks().undo(), NOT_POSSIBLE);
     }
 
     private static void sixStates() {
@@ -126,21 +122,20 @@ public final class UndoTest {
 
     private static void undoAtEachJoint() {
         for (int joint = 0; joint < 82; joint++) {
-            TailorChalks x = new TailorChalks();
-            long[] prints = new long[5];
-            prints[0] = Play.print(x);
-            x.snip(joint);
-            prints[1] = Play.print(x);
-            x.bluff(joint);
-            prints[2] = Play.print(x);
-            x.doubt(joint);
-            prints[3] = Play.print(x);
-            x.sew(joint);
-            for (int left = 3; left >= 0; left--) {
-                CHECK.due("undo() at " + joint, x.undo(), left);
-                CHECK.due("print at " + joint, Play.print(x), prints[left]);
-            }
+            TailorChalks x = Play.game("s" + joint + ";b" + joint + ";d" + joint + ";w" + joint);
+            undone(x, joint, 3, 1, NONE);
+            undone(x, joint, 2, 3, 1);
+            undone(x, joint, 1, 1, NONE);
+            undone(x, joint, 0, 0, NONE);
+            CHECK.due("print at " + joint, Play.print(x), Play.print(new TailorChalks()));
         }
+    }
+
+    private static void undone(TailorChalks x, int joint, int left, int how, int maker) {
+        CHECK.due("undo() at " + joint, x.undo(), left);
+        CHECK.due("of(" + joint + ", 0) then", x.of(joint, 0), how);
+        CHECK.due("of(" + joint + ", 5) then", x.of(joint, 5), maker);
+        CHECK.due("of(" + joint + ", 6) then", x.of(joint, 6), how == 0 ? 1 : 0);
     }
 
     private static void undoOfDoubts() {
