@@ -1,6 +1,7 @@
 /** Compares answers with those that are due, and ends the test with exit code 1 if one was wrong. */
 final class Check {
-    private static final int MOST_SHOWN = 40;
+    private static final int MOST_SHOWN = 400;
+    private static final int MOST_SHOWN_OF_A_SENTENCE = 4;
 
     private final String test;
     private String section = "";
@@ -8,6 +9,8 @@ final class Check {
     private int sentences;
     private long answers;
     private long wrong;
+    private int shown;
+    private int shownOfSentence;
 
     Check(String test) {
         this.test = test;
@@ -22,8 +25,13 @@ final class Check {
     void holds(String sentence, Runnable test) {
         this.sentence = " (" + section + ": \"" + sentence + "\")";
         sentences++;
+        shownOfSentence = 0;
         long before = answers;
-        test.run();
+        try {
+            test.run();
+        } catch (RuntimeException thrown) {
+            isSo("not to throw " + thrown, false);
+        }
         isSo("the test compares answers", answers > before);
         isSo("the document has the sentence", Document.says(section, sentence));
         this.sentence = "";
@@ -33,7 +41,9 @@ final class Check {
         answers++;
         if (got != want) {
             wrong++;
-            if (wrong <= MOST_SHOWN) {
+            if (shown < MOST_SHOWN && (sentence.isEmpty() || shownOfSentence < MOST_SHOWN_OF_A_SENTENCE)) {
+                shown++;
+                shownOfSentence++;
                 System.out.println(test + sentence + ": " + call + " answered " + got + ", due is " + want);
             }
         }

@@ -8,6 +8,8 @@ public final class ConventionsEdgesTest {
     private static final Check CHECK = new Check("ConventionsEdgesTest");
 
     public static void main(String[] args) {
+        CHECK.section("What it is");
+        CHECK.holds("An object is used for at most 512 calls after it has been made", ConventionsEdgesTest::manyCalls);
         CHECK.section("The public face");
         CHECK.holds("NO_SUCH = -1, BAD_VALUE = -2, BAD_TEXT = -3, TOO_MANY = -4, NOT_POSSIBLE = -5, NONE = -6",
             ConventionsEdgesTest::constants);
@@ -25,6 +27,26 @@ public final class ConventionsEdgesTest {
         CHECK.holds("Sets of players are bit masks.", ConventionsEdgesTest::setsOfPlayers);
         CHECK.holds("Points can be below 0, and are told with an offset.", ConventionsEdgesTest::pointsBelowZero);
         CHECK.end();
+    }
+
+    /** The last of 512 calls is answered as the first ones are. */
+    private static void manyCalls() {
+        TailorChalks x = new TailorChalks();
+        for (int call = 1; call < 512; call += 2) {
+            CHECK.due("put('p') as the call " + call, x.put('p'), 1);
+            CHECK.due("carryOut() as the call " + (call + 1), x.carryOut(), call < 400 ? 1 : 0);
+        }
+        x = new TailorChalks();
+        for (int call = 1; call < 512; call += 2) {
+            CHECK.due("snip(20) as the call " + call, x.snip(20), 0);
+            CHECK.due("undo() as the call " + (call + 1), x.undo(), 0);
+        }
+        x = new TailorChalks();
+        x.save(1);
+        for (int call = 2; call < 512; call++) {
+            CHECK.due("restore(1) as the call " + call, x.restore(1), 48);
+        }
+        CHECK.due("undo() as the call 512", x.undo(), 5);
     }
 
     private static void constants() {

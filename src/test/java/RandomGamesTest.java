@@ -1,6 +1,6 @@
 /** All promises: games of 512 calls, drawn by a fixed rule, against the model. */
 public final class RandomGamesTest {
-    private static final int GAMES = 1500;
+    private static final int GAMES = 500;
     private static final int CALLS = 512;
 
     /** As many calls as one draw makes at most. */

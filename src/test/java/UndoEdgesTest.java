@@ -5,7 +5,7 @@ public final class UndoEdgesTest {
     private static final int BAD_VALUE = -2, NOT_POSSIBLE = -5, NONE = -6;
 
     /** Chalk of both, a rag, a seam, a bluff, and doubts of both kinds; player 1 is next. */
-    private static final String MUCH = "c30;c30;s0;s42;s20;w20;d20;s21;b21;d21;b21;s22;p";
+    private static final String MUCH = "c30;c30;s0;s42;s20;w20;d20;s21;b21;d21;b21;s22;s23;p;w23";
     private static final Check CHECK = new Check("UndoEdgesTest");
 
     public static void main(String[] args) {
@@ -80,7 +80,7 @@ public final class UndoEdgesTest {
     }
 
     private static void asItWas() {
-        String[] turns = {"c31", "s30", "s43", "s20", "s21", "w22", "b22", "d21", "p"};
+        String[] turns = {"c31", "s30", "s43", "s20", "s21", "w22", "b22", "d21", "d23", "p"};
         for (String turn : turns) {
             TailorChalks x = Play.game(MUCH);
             Play.turns(x, turn);
@@ -327,7 +327,7 @@ public final class UndoEdgesTest {
         CHECK.due("fault()", x.fault(), NONE);
         CHECK.due("count(10)", x.count(10), 6);
         CHECK.due("undo()", x.undo(), 5);
-        CHECK.due("count(0)", x.count(0), 16);
+        CHECK.due("count(0)", x.count(0), 18);
         // The other slot is not in it.
         x = new TailorChalks();
         x.save(0);

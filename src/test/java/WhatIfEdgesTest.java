@@ -369,6 +369,20 @@ public final class WhatIfEdgesTest {
         x.bluff(73);
         CHECK.due("together(0, 47, 1) by two", x.together(0, 47, 1), 1);
         CHECK.due("together(0, 47, 0)", x.together(0, 47, 0), 0);
+        // By a bluff at each single joint of a border, the joints 0, 41 and 81 among them.
+        int[] leftAndBelow = {0, 7, 14, 21, 28, 75, 76, 77, 78, 79, 80, 81};
+        int[] rightAndAbove = {20, 27, 34, 41, 50, 51, 52, 53, 54, 55, 56};
+        int[][] borders = {leftAndBelow, rightAndAbove};
+        for (int[] border : borders) {
+            for (int bluffed : border) {
+                x = new TailorChalks();
+                Play.snipAll(x, border);
+                CHECK.due("count(5)", x.count(5), 2);
+                x.bluff(bluffed);
+                CHECK.due("together(0, 38, 0) by " + bluffed, x.together(0, 38, 0), 0);
+                CHECK.due("together(0, 38, 1) by " + bluffed, x.together(0, 38, 1), 1);
+            }
+        }
         // The row 3 is gone between two bluffs.
         x = Play.game(HALVES + ";s3;s10;s17;b58;s66;b66;s67;s68;s69;s70;s71;s72;s73");
         CHECK.due("cell(24, 0)", x.cell(24, 0), 1);
