@@ -8,6 +8,7 @@ public final class ClothEdgesTest {
         CHECK.holds("the cell 8 * row + column, 0 to 47", ClothEdgesTest::firstAndLastCell);
         CHECK.holds("The cloth has 6 rows of 8 columns of cells", ClothEdgesTest::rowsDoNotWrap);
         CHECK.holds("The cloth has 6 rows of 8 columns of cells", ClothEdgesTest::columnsDoNotWrap);
+        CHECK.holds("Neighbours in a row or a column have a joint", ClothEdgesTest::neighboursHaveAJoint);
         CHECK.holds("the joint 7 * row + column, 0 to 41, is between a cell and the next one in its row",
             ClothEdgesTest::jointsInRows);
         CHECK.holds("the joint 42 + 8 * row + column, 42 to 81, between a cell and the one below it",
@@ -75,6 +76,27 @@ public final class ClothEdgesTest {
             CHECK.due("cell(" + cell + ", 3)", x.cell(cell, 3), 3 - corner);
             CHECK.due("cell(" + (40 + cell) + ", 3)", x.cell(40 + cell, 3), 3 - corner);
         }
+    }
+
+    /** One joint for each two neighbours, and no joint for any other two cells. */
+    private static void neighboursHaveAJoint() {
+        TailorChalks x = new TailorChalks();
+        boolean[] known = new boolean[48 * 48];
+        for (int joint = 0; joint < 82; joint++) {
+            int first = x.of(joint, 2);
+            int second = x.of(joint, 3);
+            boolean inARow = second == first + 1 && first / 8 == second / 8;
+            CHECK.isSo("the cells of " + joint + " are neighbours", inARow || second == first + 8);
+            if (first >= 0 && second < 48) {
+                CHECK.isSo("the joint " + joint + " is the only one of its cells", !known[48 * first + second]);
+                known[48 * first + second] = true;
+            }
+        }
+        int many = 0;
+        for (boolean one : known) {
+            many += one ? 1 : 0;
+        }
+        CHECK.due("neighbours with a joint", many, 6 * 7 + 5 * 8);
     }
 
     private static void ends(TailorChalks x, int joint, int first, int second) {

@@ -371,7 +371,10 @@ public final class PlayersEdgesTest {
         CHECK.due("player(0, 1)", x.player(0, 1), 5);
         // The thread does not come back when the seam is snipped.
         x.snip(0);
-        CHECK.due("player(1, 1)", x.player(1, 1), 4);
+        CHECK.due("player(0, 1) of the snipper", x.player(0, 1), 5);
+        CHECK.due("player(1, 1) of who sewed", x.player(1, 1), 4);
+        x = Play.game("s0;w0;p;s0");
+        CHECK.due("player(1, 1) of who sewed and snipped", x.player(1, 1), 4);
     }
 
     private static void toBluff() {
@@ -508,8 +511,17 @@ public final class PlayersEdgesTest {
         x = Play.overByCells();
         CHECK.due("count(4)", x.count(4), 12);
         CHECK.due("count(2)", x.count(2), 1);
-        // Pieces that were apart count together: 12 cells and 24 cells are 36.
-        CHECK.due("count(2)", Play.twelveByTwentyFour().count(2), 0);
+        // Pieces that are apart count together: 12 and 24 cells, 1 and 12, 1 and 11.
+        x = Play.twelveByTwentyFour();
+        CHECK.due("count(2) with 12 and 24 cells", x.count(2), 0);
+        Play.turns(x, "s1;s8;s15;s0;s7;s14;s50;s42;s24;s31;s38");
+        CHECK.due("count(4)", x.count(4), 13);
+        CHECK.due("count(5)", x.count(5), 2);
+        CHECK.due("count(2) with 1 and 12 cells", x.count(2), 0);
+        Play.turns(x, "s21;s66");
+        CHECK.due("count(4)", x.count(4), 12);
+        CHECK.due("count(5)", x.count(5), 2);
+        CHECK.due("count(2) with 1 and 11 cells", x.count(2), 1);
     }
 
     private static void twoHundredTurns() {

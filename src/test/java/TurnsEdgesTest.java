@@ -7,6 +7,8 @@ public final class TurnsEdgesTest {
     private static final Check CHECK = new Check("TurnsEdgesTest");
 
     public static void main(String[] args) {
+        CHECK.section("Texts");
+        CHECK.holds("turns; each of these is a change, of the player whose turn it is", TurnsEdgesTest::ofThePlayerWhoseTurnItIs);
         CHECK.section("Promise 1: A new object");
         CHECK.holds("Creates a whole cloth", TurnsEdgesTest::newCloth);
         CHECK.holds("the player 0 is next", TurnsEdgesTest::newGame);
@@ -146,6 +148,39 @@ public final class TurnsEdgesTest {
             x.doubt(joint);
             CHECK.isSo(kind + " at " + joint + " if cut", Play.turn(x, kind, joint) >= 0);
         }
+    }
+
+    /** What each kind of turn does is done for its player and not for the other one, and is one change. */
+    private static void ofThePlayerWhoseTurnItIs() {
+        for (int next = 0; next <= 1; next++) {
+            // The joint 1 is cut, 2 sewn by player 0, 3 bluffed by player 1; the cell 0 hangs at 42 alone.
+            String turns = "s1;s2;w2;s3;p;b3;s0" + (next == 0 ? ";p" : "");
+            byItsPlayer(Play.game(turns), next, 'c', 20, 2, 1);
+            byItsPlayer(Play.game(turns), next, 's', 42, 3, 1);
+            byItsPlayer(Play.game(turns), next, 's', 42, 0, 1);
+            byItsPlayer(Play.game(turns), next, 'w', 1, 1, -1);
+            byItsPlayer(Play.game(turns), next, 'd', 3 - next, next == 0 ? 6 : 7, 1);
+            byItsPlayer(Play.game(turns), next, 'd', 3 - next, 0, next == 0 ? 2 : -2);
+            TailorChalks x = Play.game(turns);
+            x.bluff(1);
+            CHECK.due("of(1, 5) bluffed by player " + next, x.of(1, 5), next);
+            x = Play.game(turns);
+            x.sew(1);
+            CHECK.due("of(1, 5) sewn by player " + next, x.of(1, 5), next);
+        }
+    }
+
+    private static void byItsPlayer(TailorChalks x, int next, char kind, int joint, int what, int more) {
+        CHECK.due("count(1)", x.count(1), next);
+        int own = x.player(next, what);
+        int others = x.player(1 - next, what);
+        int turns = x.count(0);
+        CHECK.isSo(kind + " at " + joint + " is done", Play.turn(x, kind, joint) >= 0);
+        CHECK.due("player(" + next + ", " + what + ") behind " + kind, x.player(next, what), own + more);
+        CHECK.due("player(" + (1 - next) + ", " + what + ") behind " + kind, x.player(1 - next, what), others);
+        x.undo();
+        CHECK.due("count(0) behind " + kind + " and undo()", x.count(0), turns);
+        CHECK.due("player(" + next + ", " + what + ") behind undo()", x.player(next, what), own);
     }
 
     // ---- a new object

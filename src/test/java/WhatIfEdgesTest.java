@@ -57,6 +57,7 @@ public final class WhatIfEdgesTest {
         CHECK.section("Promise 17: together");
         CHECK.holds("Tells whether two cells hang together by joints that hold", WhatIfEdgesTest::byThoseThatHold);
         CHECK.holds("or would if bluffed seams held, too", WhatIfEdgesTest::ifBluffsHeld);
+        CHECK.holds("0 by those that hold, 1 bluffed ones, too", WhatIfEdgesTest::bothWays);
         CHECK.holds("Returns 1 if they do, otherwise 0", WhatIfEdgesTest::aCellWithItself);
         CHECK.holds("NO_SUCH if there is no such cell", WhatIfEdgesTest::togetherWithNoCell);
         CHECK.holds("BAD_VALUE if way is neither", WhatIfEdgesTest::neitherWay);
@@ -387,6 +388,19 @@ public final class WhatIfEdgesTest {
         x = Play.game(HALVES + ";s3;s10;s17;b58;s66;b66;s67;s68;s69;s70;s71;s72;s73");
         CHECK.due("cell(24, 0)", x.cell(24, 0), 1);
         CHECK.due("together(0, 47, 1) by void bluffs", x.together(0, 47, 1), 0);
+    }
+
+    private static void bothWays() {
+        int[] due = {0, 1};
+        for (int way = 0; way <= 1; way++) {
+            TailorChalks x = Play.game(HALVES + ";b58;s0;s41");
+            CHECK.due("together(16, 24, " + way + ") by a bluff", x.together(16, 24, way), due[way]);
+            CHECK.due("together(0, 23, " + way + ") by those that hold", x.together(0, 23, way), 1);
+            Play.turns(x, "p;s58");
+            CHECK.due("together(16, 24, " + way + ") by nothing", x.together(16, 24, way), 0);
+            x.sew(58);
+            CHECK.due("together(16, 24, " + way + ") by a seam", x.together(16, 24, way), 1);
+        }
     }
 
     private static void aCellWithItself() {
