@@ -776,31 +776,42 @@ public final class TailorChalks {
     private static final class History {
         private static final int MOST = 6;
 
-        /** One state more than are kept: a change is noted before it is known to succeed. */
         private final Game[] states;
         int kept;
 
+        /** A change is noted before it is known to succeed. */
+        private Game noted;
+
         History() {
-            states = new Game[MOST + 1];
-            for (int index = 0; index <= MOST; index++) {
+            states = new Game[MOST];
+            for (int index = 0; index < MOST; index++) {
                 states[index] = new Game();
             }
+            noted = new Game();
         }
 
         void note(Game game) {
-            states[kept].become(game);
+            noted.become(game);
         }
 
         void keepNoted() {
-            if (kept < MOST) {
-                kept++;
-                return;
+            if (kept >= MOST) {
+                dropOldest();
             }
+            Game free = states[kept];
+            states[kept] = noted;
+            noted = free;
+            kept++;
+        }
+
+        /** What is dropped stands last then, where the next note finds its place. */
+        private void dropOldest() {
             Game dropped = states[0];
-            for (int index = 0; index < MOST; index++) {
-                states[index] = states[index + 1];
+            for (int index = 1; index < MOST; index++) {
+                states[index - 1] = states[index];
             }
-            states[MOST] = dropped;
+            states[MOST - 1] = dropped;
+            kept = MOST - 1;
         }
 
         int goBack(Game game) {
